@@ -76,7 +76,7 @@ public final class BogBoards {
             case 0: return bog.walkerAt(bog.now, w);
             case 1: return bog.goalPlace(w);
             case 2: return bog.carriedBy(bog.now, w);
-            default: return bog.counts(bog.now, w);
+            default: return bog.counts(w, bog.ladenMask(bog.now));
         }
     }
 
@@ -455,8 +455,20 @@ public final class BogBoards {
             return NONE;
         }
 
-        int counts(int code, int w) {
-            return weights[w] + (carriedBy(code, w) == NONE ? 0 : BOARD_WEIGHT);
+        /** Which walkers carry a board. */
+        int ladenMask(int code) {
+            int mask = 0;
+            for (int b = 0; b < boards; b++) {
+                int where = boardAt(code, b);
+                if (where >= CARRIED && where != NOWHERE) {
+                    mask |= 1 << where - CARRIED;
+                }
+            }
+            return mask;
+        }
+
+        int counts(int w, int laden) {
+            return weights[w] + ((laden >> w & 1) == 1 ? BOARD_WEIGHT : 0);
         }
 
         private int maskOf(int span, int place) {
@@ -464,7 +476,8 @@ public final class BogBoards {
         }
 
         private int coverOf(int code, int b) {
-            return isLying(code, b) ? maskOf(spans[b], boardAt(code, b)) : 0;
+            int where = boardAt(code, b);
+            return where < CARRIED ? maskOf(spans[b], where) : 0;
         }
 
         int boardMask(int code) {
@@ -475,21 +488,31 @@ public final class BogBoards {
             return mask;
         }
 
-        int firmMask(int code) {
-            return 1 | 1 << last | islands | boardMask(code);
+        private boolean isIn(int mask, int p) {
+            return hasPlace(p) && (mask >> p & 1) == 1;
+        }
+
+        private int groundMask() {
+            return 1 | 1 << last | islands;
+        }
+
+        private int standMask(int code) {
+            int mask = 0;
+            for (int w = 0; w < walkers; w++) {
+                mask |= 1 << walkerAt(code, w);
+            }
+            return mask;
         }
 
         boolean isFirm(int code, int p) {
-            return hasPlace(p) && (firmMask(code) >> p & 1) == 1;
+            return isIn(groundMask() | boardMask(code), p);
         }
 
         /** Which board covers a place. */
         int boardOver(int code, int p) {
-            if (hasPlace(p)) {
-                for (int b = 0; b < boards; b++) {
-                    if ((coverOf(code, b) >> p & 1) == 1) {
-                        return b;
-                    }
+            for (int b = 0; b < boards; b++) {
+                if (isIn(coverOf(code, b), p)) {
+                    return b;
                 }
             }
             return NONE;
@@ -506,29 +529,30 @@ public final class BogBoards {
         }
 
         int loadOn(int code, int b) {
-            int cover = coverOf(code, b);
-            int load = 0;
+            return weightOver(code, coverOf(code, b), ladenMask(code));
+        }
+
+        private int weightOver(int code, int cover, int laden) {
+            int weight = 0;
             for (int w = 0; w < walkers; w++) {
                 if ((cover >> walkerAt(code, w) & 1) == 1) {
-                    load += counts(code, w);
+                    weight += counts(w, laden);
                 }
             }
-            return load;
+            return weight;
         }
 
         boolean isWell(int code) {
-            int firm = firmMask(code);
-            for (int w = 0; w < walkers; w++) {
-                if ((firm >> walkerAt(code, w) & 1) == 0) {
-                    return false;
-                }
-            }
+            int firm = groundMask();
+            int laden = ladenMask(code);
             for (int b = 0; b < boards; b++) {
-                if (loadOn(code, b) > strengths[b]) {
+                int cover = coverOf(code, b);
+                if (weightOver(code, cover, laden) > strengths[b]) {
                     return false;
                 }
+                firm |= cover;
             }
-            return true;
+            return (standMask(code) & ~firm) == 0;
         }
 
         boolean isSuch(int act) {
@@ -558,13 +582,14 @@ public final class BogBoards {
             int w = act >> 6 & 3;
             int x = act >> 3 & 7;
             int y = act & 7;
+            int firm = groundMask() | boardMask(code);
             int next;
             switch (act >> 8) {
-                case WALK: next = walked(code, w, x); break;
-                case LAY: next = laid(code, w, x, y); break;
+                case WALK: next = walked(code, w, x, firm); break;
+                case LAY: next = laid(code, w, x, y, firm); break;
                 case TAKE: next = taken(code, w, x); break;
                 case HAND: next = handed(code, w, x, y); break;
-                default: next = leapt(code, w, x); break;
+                default: next = leapt(code, w, x, firm); break;
             }
             if (next < 0) {
                 return CAN_NOT;
@@ -572,28 +597,28 @@ public final class BogBoards {
             return isWell(next) ? next : NOT_WELL;
         }
 
-        private int walked(int code, int w, int x) {
-            int to = walkerAt(code, w) + (x == 0 ? -1 : 1);
-            return isFirm(code, to) ? withWalker(code, w, to) : CAN_NOT;
+        private int walked(int code, int w, int way, int firm) {
+            int to = walkerAt(code, w) + (way == 0 ? -1 : 1);
+            return isIn(firm, to) ? withWalker(code, w, to) : CAN_NOT;
         }
 
-        private int leapt(int code, int w, int x) {
-            int step = x == 0 ? -1 : 1;
+        private int leapt(int code, int w, int way, int firm) {
+            int step = way == 0 ? -1 : 1;
             int between = walkerAt(code, w) + step;
             int to = between + step;
-            return !isFirm(code, between) && isFirm(code, to) ? withWalker(code, w, to) : CAN_NOT;
+            return !isIn(firm, between) && isIn(firm, to) ? withWalker(code, w, to) : CAN_NOT;
         }
 
-        private int laid(int code, int w, int b, int y) {
+        private int laid(int code, int w, int b, int way, int firm) {
             if (boardAt(code, b) != CARRIED + w) {
                 return CAN_NOT;
             }
             int at = walkerAt(code, w);
-            int least = y == 0 ? at - spans[b] : at + 1;
+            int least = way == 0 ? at - spans[b] : at + 1;
             if (least < 0 || least + spans[b] - 1 > last) {
                 return CAN_NOT;
             }
-            boolean allWet = (maskOf(spans[b], least) & firmMask(code)) == 0;
+            boolean allWet = (maskOf(spans[b], least) & firm) == 0;
             return allWet ? withBoard(code, b, least) : CAN_NOT;
         }
 
@@ -611,10 +636,8 @@ public final class BogBoards {
             if (kinds[b] == ROPE && standingAt(code, at == before ? behind : before) == 0) {
                 return CAN_NOT;
             }
-            if (loadOn(code, b) > 0 || carriedBy(code, w) != NONE) {
-                return CAN_NOT;
-            }
-            return withBoard(code, b, CARRIED + w);
+            boolean isStoodOn = (coverOf(code, b) & standMask(code)) != 0;
+            return isStoodOn || carriedBy(code, w) != NONE ? CAN_NOT : withBoard(code, b, CARRIED + w);
         }
 
         private int handed(int code, int w, int b, int other) {
