@@ -322,8 +322,8 @@ public final class BogBoards {
         static final int MOST_KIND = 5;
         private static final int ROPE = 4, FROZEN = 5, BOARD_WEIGHT = 2;
         private static final int[] LONGER = {0, 0, 1, 0, 1, 0};
-        private static final int[] TIMES = {1, 1, 1, 2, 1, 2};
-        private static final int[] PARTS = {1, 2, 1, 1, 1, 1};
+        // In halves, so that half of what is told is cut by one division.
+        private static final int[] STRONGER = {2, 1, 2, 4, 2, 4};
 
         int last = MOST_LAST;
         int islands;
@@ -383,7 +383,7 @@ public final class BogBoards {
             toldLengths[boards] = length;
             toldBears[boards] = bears;
             spans[boards] = span;
-            strengths[boards] = PARTS[kind] == 2 ? bears / 2 : bears * TIMES[kind];
+            strengths[boards] = bears * STRONGER[kind] / 2;
             now = withBoard(now, boards, place);
             boards++;
             return true;
@@ -579,12 +579,17 @@ public final class BogBoards {
             if (!isSuch(act)) {
                 return NO_SUCH;
             }
+            int kind = act >> 8;
             int w = act >> 6 & 3;
             int x = act >> 3 & 7;
             int y = act & 7;
+            boolean isByCarrier = kind == LAY || kind == HAND;
+            if (isByCarrier && boardAt(code, x) != CARRIED + w) {
+                return CAN_NOT;
+            }
             int firm = groundMask() | boardMask(code);
             int next;
-            switch (act >> 8) {
+            switch (kind) {
                 case WALK: next = walked(code, w, x, firm); break;
                 case LAY: next = laid(code, w, x, y, firm); break;
                 case TAKE: next = taken(code, w, x); break;
@@ -610,9 +615,6 @@ public final class BogBoards {
         }
 
         private int laid(int code, int w, int b, int way, int firm) {
-            if (boardAt(code, b) != CARRIED + w) {
-                return CAN_NOT;
-            }
             int at = walkerAt(code, w);
             int least = way == 0 ? at - spans[b] : at + 1;
             if (least < 0 || least + spans[b] - 1 > last) {
@@ -641,11 +643,9 @@ public final class BogBoards {
         }
 
         private int handed(int code, int w, int b, int other) {
-            if (boardAt(code, b) != CARRIED + w || carriedBy(code, other) != NONE) {
-                return CAN_NOT;
-            }
             int apart = walkerAt(code, w) - walkerAt(code, other);
-            return apart >= -1 && apart <= 1 ? withBoard(code, b, CARRIED + other) : CAN_NOT;
+            boolean isNear = apart >= -1 && apart <= 1;
+            return isNear && carriedBy(code, other) == NONE ? withBoard(code, b, CARRIED + other) : CAN_NOT;
         }
 
         long digestOn(long start) {
