@@ -250,6 +250,12 @@ public final class ModelTest {
             plan.add(new long[] {7, act});
             plan.add(new long[] {8, act});
         }
+        for (int w = 0; w < model.walkers.size(); w++) {
+            int carried = model.boards.indexOf(model.walkers.get(w).carries);
+            if (carried >= 0) {
+                plan.add(new long[] {7, 256 + 64 * w + 8 * carried + pick(2)});
+            }
+        }
         if (pick(4) == 0) {
             plan.add(new long[] {9});
         }

@@ -173,6 +173,11 @@ public final class PromisesTest {
         broken("last 3;board 0 2 1 0;board 0 1 1 1;", 33);
         broken("last 3;board 0 1 1 2;board 2 1 1 1;", 33);
         broken("last 3;board 0 1 1 0;board 0 1 1 1;board 0 1 1 2;", 35);
+        broken("last 3;walkerz 1 0 0;", 7);
+        broken("last 3;walker{ 1 0 0;", 13);
+        broken("last 3;walker` 1 0 0;", 13);
+        broken("last 3;walker : 0 0;", 14);
+        broken("last 3;walker / 0 0;", 14);
         broken("last 3;\n", 7);
         broken("last 3;island\u00e9 1;", 13);
         BogBoards x = new BogBoards();
@@ -306,6 +311,24 @@ public final class PromisesTest {
         BogBoards heavy = bog("last 4;island 1;board 0 1 5 2;board 0 1 9 3;walker 4 2 1;walker 4 1 1;");
         due("taking up makes too heavy", heavy.why(520), 3);
         due("wrong(-1)", heavy.wrong(-1), 2);
+    }
+
+    private static void layingOverTheEdge() {
+        for (int last = 2; last <= 7; last++) {
+            BogBoards ahead = bog("last " + last + ";board 0 1 9 " + (last - 1) + ";walker 1 " + last + " 0;");
+            due("act(512)", ahead.act(512), 1);
+            due("lay ahead over the edge", ahead.why(257), 2);
+            due("lay back", ahead.why(256), 0);
+            BogBoards back = bog("last " + last + ";board 0 1 9 1;walker 1 0 1;");
+            due("act(512)", back.act(512), 1);
+            due("lay back over the edge", back.why(256), 2);
+            due("lay ahead", back.why(257), 0);
+        }
+        BogBoards middle = bog("last 4;island 3;board 0 2 9 1;walker 1 3 1;");
+        due("act(512)", middle.act(512), 1);
+        due("lay ahead on land and over the edge", middle.why(257), 2);
+        due("act(8)", middle.act(8), 1);
+        due("lay back on an island", middle.why(256), 2);
     }
 
     private static void acting() {
@@ -756,6 +779,7 @@ public final class PromisesTest {
         promise = 9;
         whys();
         kindsThatAreTakenUp();
+        layingOverTheEdge();
         promise = 10;
         acting();
         promise = 11;
