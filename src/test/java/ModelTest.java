@@ -55,7 +55,7 @@ public final class ModelTest {
 
     /** Numbers of the calls, as the face has them from type() on. */
     static long call(BogBoards x, long[] c) {
-        int a = c.length > 2 ? (int) c[1] : c.length > 1 ? (int) c[1] : 0;
+        int a = c.length > 1 ? (int) c[1] : 0;
         int b = c.length > 2 ? (int) c[2] : 0;
         switch ((int) c[0]) {
             case 0: return x.type(c[1], b);
@@ -263,7 +263,11 @@ public final class ModelTest {
     }
 
     private static void planQuestion(List<long[]> plan, Model model) {
-        switch (pick(17)) {
+        int[] far = {Integer.MIN_VALUE, Integer.MAX_VALUE, -1, 0, 1, 2, 1 << 30, -(1 << 30), 255, 4096};
+        switch (pick(18)) {
+            case 17:
+                plan.add(new long[] {pick(28), far[pick(10)], far[pick(10)], far[pick(10)]});
+                break;
             case 0: plan.add(new long[] {3, pick(11) - 2}); break;
             case 1: plan.add(new long[] {4, pick(11) - 2}); break;
             case 2: plan.add(new long[] {5, pick(5) - 1, pick(6) - 1}); break;
