@@ -143,6 +143,11 @@ public final class PromisesTest {
         broken("last;", 4);
         broken(" lasts 3;", 1);
         broken("las 3;", 0);
+        broken("cast 3;", 0);
+        broken("lash 3;", 0);
+        broken("last 3;asland 1;", 7);
+        broken("last 3;talker 1 0 0;", 7);
+        broken("last 3;hoard 0 1 1 1;", 7);
         broken("Last 3;", 0);
         broken("3;", 0);
         broken(";", 0);
