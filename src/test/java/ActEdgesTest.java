@@ -271,6 +271,23 @@ public final class ActEdgesTest extends Check {
         why(two, take(0, 1), 0);
     }
 
+    static void nobodyTakesWhatAnotherCarries() {
+        sentence("2 TAKE UP: it lies (wherever who carries it, and who would take it, stand)");
+        for (int carrier = 0; carrier <= 2; carrier++) {
+            for (int other = 0; other <= 7; other++) {
+                StringBuilder text = new StringBuilder(allIslands(7));
+                for (int w = 0; w <= 2; w++) {
+                    text.append("walker 1 ").append(w == carrier ? 3 : other).append(" 1;");
+                }
+                BogBoards x = bog(text + "board 0 1 9 " + (other == 4 ? 2 : 4) + ";");
+                acts(x, take(carrier, 0));
+                for (int w = 0; w <= 2; w++) {
+                    why(x, take(w, 0), 2);
+                }
+            }
+        }
+    }
+
     static void everyKindButFrozenIsTakenUpAlone() {
         sentence("KINDS let it: 0 PLAIN, 1 CRACKED, 2 LONG, 3 DOUBLE; 5 FROZEN: is never taken up");
         int[] due = {0, 0, 0, 0, 2, 2};
@@ -447,6 +464,9 @@ public final class ActEdgesTest extends Check {
         // A leap onto the weak board would not be well, but is no act here.
         BogBoards x = bog("last 4;board 0 1 3 2;walker 4 0 1;");
         due("wrong(-1)", x.wrong(-1), 0);
+        BogBoards back = bog("last 4;board 0 1 3 2;walker 4 4 0;");
+        due("wrong(-1), a leap back", back.wrong(-1), 0);
+        due("wrong(0), a leap back", back.wrong(0), -5);
         BogBoards y = bog("last 5;island 1;board 0 2 5 2;board 0 1 9 4;walker 4 3 1;walker 2 1 1;walker 2 5 0;");
         due("wrong(-1)", y.wrong(-1), 2);
         due("wrong(0)", y.wrong(0), walk(1, 1));
@@ -458,6 +478,14 @@ public final class ActEdgesTest extends Check {
         due("wrong(-1)", z.wrong(-1), 2);
         due("wrong(0)", z.wrong(0), walk(1, 1));
         due("wrong(1)", z.wrong(1), hand(1, 0, 0));
+    }
+
+    static void wrongIsTheLeastActToo() {
+        sentence("WRONG: ACTS 0 to 3 (the least, too)");
+        BogBoards x = bog("last 2;board 0 1 3 1;walker 4 2 0;");
+        due("wrong(-1)", x.wrong(-1), 1);
+        due("wrong(0)", x.wrong(0), 0);
+        due("wrong(1)", x.wrong(1), -5);
     }
 
     static void wrongIsTheHighestActToo() {

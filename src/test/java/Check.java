@@ -6,6 +6,7 @@ import java.util.Comparator;
 
 /** What the tests at the edges share. Each test quotes the words of the document that it stands for. */
 abstract class Check {
+    private static String test = "";
     private static String sentence = "";
     private static int sentences;
     private static int wrong;
@@ -19,7 +20,7 @@ abstract class Check {
     static void due(String call, long got, long want) {
         if (got != want) {
             wrong++;
-            System.out.println("\"" + sentence + "\": " + call + " answered " + got + ", due is " + want);
+            System.out.println(test + " \"" + sentence + "\": " + call + " answered " + got + ", due is " + want);
         }
     }
 
@@ -120,21 +121,22 @@ abstract class Check {
         }
     }
 
-    private static void runOne(Method test) {
+    private static void runOne(Method method) {
         int told = sentences;
-        sentence = test.getName();
+        test = method.getName();
+        sentence = "";
         try {
-            test.invoke(null);
+            method.invoke(null);
         } catch (InvocationTargetException e) {
             wrong++;
-            System.out.println("\"" + sentence + "\": " + e.getCause());
+            System.out.println(test + " \"" + sentence + "\": " + e.getCause());
         } catch (IllegalAccessException e) {
             wrong++;
             System.out.println(test + " can not be run");
         }
         if (sentences == told) {
             wrong++;
-            System.out.println(test.getName() + " quotes no sentence");
+            System.out.println(test + " quotes no sentence");
         }
     }
 }

@@ -175,6 +175,31 @@ public final class KeepEdgesTest extends Check {
         due("count(4) as it was kept", x.count(4), 2);
     }
 
+    static void whatMayBeUndoneIsNotMixed() {
+        sentence("IMAGES: what may be undone they keep (whatever is done behind it)");
+        BogBoards x = bog(ROAD + "walker 3 3 0;");
+        acts(x, walk(0, 1), walk(0, 1));
+        long[] before = new long[3];
+        before[2] = x.digest();
+        x.image(1);
+        x.undo();
+        before[1] = x.digest();
+        x.undo();
+        before[0] = x.digest();
+        acts(x, walk(1, 0), walk(1, 0), walk(1, 0));
+        due("from(1)", x.from(1), 1);
+        due("digest", x.digest(), before[2]);
+        due("undo()", x.undo(), 1);
+        due("digest, one undone", x.digest(), before[1]);
+        due("undo()", x.undo(), 1);
+        due("digest, two undone", x.digest(), before[0]);
+        due("undo()", x.undo(), -3);
+        acts(x, walk(1, 0), walk(1, 0), walk(1, 0));
+        due("from(1)", x.from(1), 1);
+        due("undo()", x.undo(), 1);
+        due("digest, one undone", x.digest(), before[1]);
+    }
+
     static void imagesDoNotKeepTheRest() {
         sentence("IMAGES keep all but THE TEXT, THE FRACTION and STATUS");
         BogBoards x = bog(ROAD);

@@ -198,6 +198,25 @@ public final class MistEdgesTest extends Check {
         mist("last 3;island 1;island 2;walker 1 3 0;board 0 1 9 0;", rule, 40, -1, 0, 40);
     }
 
+    static void eachWalkerWithEachBoard() {
+        sentence("each WALKER: 2 LAYS his BOARD, 3 TAKES UP the BOARD (whichever they are)");
+        for (int w = 0; w <= 2; w++) {
+            for (int b = 0; b <= 1; b++) {
+                for (int goal = 0; goal <= 1; goal++) {
+                    StringBuilder text = new StringBuilder("last 5;island " + (goal == 1 ? 3 : 2) + ";");
+                    for (int i = 0; i <= 2; i++) {
+                        text.append(i == w ? goal == 1 ? "walker 1 3 1;" : "walker 1 2 0;" : "walker 1 0 0;");
+                    }
+                    for (int i = 0; i <= 1; i++) {
+                        text.append("board 0 1 9 ").append(i == b ? goal == 1 ? 2 : 3 : 0).append(';');
+                    }
+                    // He takes it up behind him, lays it ahead, and goes over it.
+                    mist(text.toString(), "3-t+(t>2)", 4, -1, 3, 4);
+                }
+            }
+        }
+    }
+
     static void eachByNumbers() {
         sentence("each WALKER, by numbers, works THE RULE");
         // The first one goes onto the weak board, then it is too much for the second one.
@@ -357,7 +376,7 @@ public final class MistEdgesTest extends Check {
 
     static void aFaultAllStay() {
         sentence("(A FAULT: all stay.)");
-        for (String rule : new String[] {"", "1+", "1)", "(1", "1234567", "1 1", "x", "1<2<3"}) {
+        for (String rule : new String[] {"", "1+", "1)", "(1", "1234567", "1234577", "1+(((((((((0", "1 1", "x", "1<2<3"}) {
             mist("last 2;walker 1 0 1;walker 1 2 1;", rule, 40, -1, 1, 40);
         }
     }

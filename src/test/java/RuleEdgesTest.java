@@ -293,6 +293,16 @@ public final class RuleEdgesTest extends Check {
         fault("1" + "+1".repeat(19) + "x", 391);
     }
 
+    static void aRuleTakesThePlaceOfTheOneAheadOfIt() {
+        sentence("erase: It is empty (nothing of it is left, also in the mist)");
+        BogBoards x = bog("last 1;walker 1 0 1;");
+        for (int i = 1; i <= 8; i++) {
+            boolean goes = i % 2 == 1;
+            rule(x, "0|".repeat(19) + (goes ? "1" : "0") + " ");
+            due("whether he goes by rule " + i, x.mist(1, 1), goes ? 1 : 0);
+        }
+    }
+
     static void truths() {
         sentence("truths 1, 0 (not 0 is a truth)");
         isTrue("1<2", "2>1", "2=2", "!0", "2&4", "4|2", "0|2", "2|0", "-1&-1", "!!5", "-1|0", "(3<4)=1", "(2&4)=1", "(2|4)=1",

@@ -334,10 +334,29 @@ public final class SearchEdgesTest extends Check {
         due("fewest() behind from", x.fewest(), 2);
         due("row(1) behind from", x.row(1), 8);
         due("leaps(0) behind from", x.leaps(0), 1);
-        read(x, "last 3;island 1;board 0 1 9 2;walker 1 1 0;");
-        due("fewest() behind read", x.fewest(), 1);
-        due("row(0) behind read", x.row(0), 0);
-        due("lost(0) behind read", x.lost(0), 1);
+        // Once it is taken up, there is no place for the board that reaches over land.
+        read(x, "last 2;board 0 2 9 1;walker 1 0 1;");
         due("leaps(-1) behind read", x.leaps(-1), 0);
+        x.image(0);
+        acts(x, take(0, 0));
+        due("leaps(-1) behind act", x.leaps(-1), 1);
+        due("fewest() behind act", x.fewest(), -1);
+        x.undo();
+        due("leaps(-1) behind undo", x.leaps(-1), 0);
+        acts(x, take(0, 0));
+        due("leaps(-1) behind act", x.leaps(-1), 1);
+        x.from(0);
+        due("leaps(-1) behind from", x.leaps(-1), 0);
+        BogBoards y = bog("last 2;board 5 1 1 1;walker 4 0 1;");
+        due("fewest()", y.fewest(), -1);
+        due("lost(0)", y.lost(0), -1);
+        due("leaps(-1)", y.leaps(-1), -1);
+        due("leaps(0)", y.leaps(0), 1);
+        read(y, "last 3;island 1;board 0 1 9 2;walker 1 1 0;");
+        due("fewest() behind read", y.fewest(), 1);
+        due("row(0) behind read", y.row(0), 0);
+        due("lost(0) behind read", y.lost(0), 1);
+        due("leaps(-1) behind read", y.leaps(-1), 0);
+        due("leaps(0) behind read", y.leaps(0), 0);
     }
 }

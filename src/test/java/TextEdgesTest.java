@@ -345,7 +345,7 @@ public final class TextEdgesTest extends Check {
     }
 
     static void wordsStandOnlyWhereAnItemBegins() {
-        sentence("FAULT: the first TOKEN that can not stand there");
+        sentence("FAULT: the place of the first byte of the TOKEN (a word or ; where a number is due, a number where none is)");
         broken("last last 3;", 5);
         broken("last island;", 5);
         broken("last 3 walker;", 7);
