@@ -313,6 +313,12 @@ public final class RuleEdgesTest extends Check {
         isFalse("2", "3", "4", "6");
     }
 
+    static void allIsWorked() {
+        sentence("all is worked (also behind what tells the truth already, and what divides by 0)");
+        isTrue("1|1/0", "0|1/0|1", "!(0&1/0)", "(1/0=0)&1", "1&1/0+1");
+        isFalse("0&1/0", "1/0&1", "0|1/0");
+    }
+
     static void signsBindAsTheyAreTold() {
         sentence("VALUE, BOTH, HELD, SUM, TERM, UNIT: which of them binds more");
         isTrue("1|0&0", "(1|0)&1", "0&0|1", "2+3*5", "1+2<4", "3-2-4", "24/4/2+2", "1-2*3+2*3", "!0+4", "!1+1", "-1+2", "-3*1",
@@ -336,7 +342,7 @@ public final class RuleEdgesTest extends Check {
         sentence("longs wrap");
         // 4096 to the fifth, times 8, is 2 to the 63rd: below 0, and the same below 0 again.
         isTrue("4096*4096*4096*4096*4096*8<0", "-(4096*4096*4096*4096*4096*8)<0", "4096*4096*4096*4096*4096*8/-1<0",
-            "4096*4096*4096*4096*4096*8-1>0", "4096*4096*4096*4096*4096*16=0", "-(4096*4096*4096*4096*4096*8-1)<0");
+            "4096*4096*4096*4096*4096*8-1>0", "-1+4096*4096*4096*4096*4096*8>0", "4096*4096*4096*4096*4096*16=0", "-(4096*4096*4096*4096*4096*8-1)<0");
         isFalse("4096*4096*4096*4096*4096*4<0", "4096*4096*4096*4096*4096*16");
         isTrue("999999*999999*999999*999999", "65536*65536+1", "65536*65536=4294*1000*1000+967296");
     }
