@@ -455,7 +455,6 @@ public final class BogBoards {
             return NONE;
         }
 
-        /** Which walkers carry a board. */
         int ladenMask(int code) {
             int mask = 0;
             for (int b = 0; b < boards; b++) {
@@ -508,7 +507,6 @@ public final class BogBoards {
             return isIn(groundMask() | boardMask(code), p);
         }
 
-        /** Which board covers a place. */
         int boardOver(int code, int p) {
             for (int b = 0; b < boards; b++) {
                 if (isIn(coverOf(code, b), p)) {
@@ -1014,7 +1012,7 @@ public final class BogBoards {
             return c == 'a' || c == 'n' || c == 'c' || c == 'b' || c == 'k' || c == 't';
         }
 
-        /** What the rule tells by what is seen; it has no fault. */
+        /** Asked only when the rule has no fault: its steps are whole then. */
         long worked(Sight sight) {
             stacked = 0;
             for (int i = 0; i < stepCount && i < ROOM; i++) {
@@ -1321,7 +1319,7 @@ public final class BogBoards {
             return false;
         }
 
-        /** Queues a code, unless it was already. */
+        /** A code is queued once: what comes to it later comes by a longer row, or by one that is not the least. */
         private boolean enter(int code) {
             if (code < 0 || code >= Bog.CODES || queued >= Bog.CODES || marks[code] == mark) {
                 return false;
